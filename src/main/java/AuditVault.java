@@ -558,17 +558,13 @@ public final class AuditVault {
             words = new int[length * HASH_WORDS];
         }
 
-        private static int shiftOf(int k) {
-            return 24 - 8 * (k & 3);
-        }
-
         private int byteAt(int h, int k) {
-            return words[h * HASH_WORDS + (k >> 2)] >>> shiftOf(k) & 255;
+            return words[h * HASH_WORDS + (k >> 2)] >>> 24 - 8 * (k & 3) & 255;
         }
 
         private int spoilByte(int h, int k, int mask) {
             int was = byteAt(h, k);
-            words[h * HASH_WORDS + (k >> 2)] ^= mask << shiftOf(k);
+            words[h * HASH_WORDS + (k >> 2)] ^= mask << 24 - 8 * (k & 3);
             return was;
         }
 
@@ -602,9 +598,12 @@ public final class AuditVault {
             length = 0;
         }
 
+        /** Four bytes shift a word's older ones out, so that no row is cleared between two hashes. */
         private void add(int value) {
-            if (length + TAIL_BYTES <= MOST_BLOCKS * BLOCK_BYTES) {
-                push(value);
+            int word = length >> 2;
+            if (word < message.length) {
+                message[word] = message[word] << 8 | value & 255;
+                length++;
             }
         }
 
@@ -625,9 +624,9 @@ public final class AuditVault {
         private void finish(Hashes to, int t) {
             int bits = length * 8;
             int blocks = length + TAIL_BYTES <= BLOCK_BYTES ? 1 : MOST_BLOCKS;
-            push(128);
+            add(128);
             for (int i = length; i < blocks * BLOCK_BYTES - LENGTH_BYTES; i++) {
-                push(0);
+                add(0);
             }
             message[blocks * BLOCK_WORDS - 1] = bits;
             for (int w = 0; w < HASH_WORDS; w++) {
@@ -640,13 +639,6 @@ public final class AuditVault {
             for (int w = 0; w < HASH_WORDS; w++) {
                 to.words[t * HASH_WORDS + w] = state[w];
             }
-        }
-
-        /** Four pushes shift a word's older bytes out, so that no row is cleared between two hashes. */
-        private void push(int value) {
-            int word = length >> 2;
-            message[word] = message[word] << 8 | value & 255;
-            length++;
         }
 
         private void spread(int block) {
