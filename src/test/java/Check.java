@@ -23,6 +23,10 @@ final class Check {
         return wrong;
     }
 
+    static int askedOnes() {
+        return asked;
+    }
+
     static void end() {
         System.out.println(wrong == 0 ? asked + " answers, all as due" : wrong + " of " + asked + " answers are not as due");
         if (wrong != 0) {

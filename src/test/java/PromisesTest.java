@@ -1,22 +1,6 @@
 /** Each promise of the document by its number: ordinary inputs, the edges that it names, wrong inputs. */
-public final class PromisesTest {
-    private static final int BAD = -2, SHUT = -3, FULL = -4, NOT = -5, NONE = -1;
-    private static final int LOW = Integer.MIN_VALUE, HIGH = Integer.MAX_VALUE;
-
+public final class PromisesTest extends Cases {
     private PromisesTest() { }
-
-    private static void due(String call, long got, long want) {
-        Check.due(call, got, want);
-    }
-
-    /** A vault with so many entries, each a request of subject 0 that is allowed. */
-    private static AuditVault withEntries(int n) {
-        AuditVault x = new AuditVault();
-        for (int i = 0; i < n; i++) {
-            due("fill " + i, x.request(0, i % 16, i % 4), 0);
-        }
-        return x;
-    }
 
     private static void promise1NewObject() {
         AuditVault x = new AuditVault();
@@ -295,14 +279,6 @@ public final class PromisesTest {
         due("13: C 0", x.chain(0, 0), 0);
         due("14: shut", x.root(1, 0), BAD);
         due("14: of none", x.root(0, 0), 227);
-    }
-
-    private static Model modelWithEntries(int n) {
-        Model model = new Model();
-        for (int i = 0; i < n; i++) {
-            model.request(0, i % 16, i % 4);
-        }
-        return model;
     }
 
     private static void promises15To17Proofs() {
