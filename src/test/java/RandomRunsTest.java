@@ -2,6 +2,7 @@ import java.util.Random;
 
 /** Seeded runs of up to 512 calls on a new object, each answer compared with the model's. */
 public final class RandomRunsTest {
+    private static final int MOST_CALLS = 512;
     private static final int[] ODD = {-1, Integer.MIN_VALUE, Integer.MAX_VALUE, 12, 15, 16, 19, 20, 32, 60, 61, 1019,
         1020, 1021, 255, 256, 65536, -2147483000};
 
@@ -9,10 +10,12 @@ public final class RandomRunsTest {
     private final AuditVault vault = new AuditVault();
     private final Model model = new Model();
     private final int oddOneIn;
+    private final boolean isRestless;
 
     private RandomRunsTest(long seed) {
         random = new Random(seed);
         oddOneIn = seed % 3 == 0 ? 12 : 200;
+        isRestless = seed % 2 == 0;
     }
 
     /** A number below a bound, or now and then one that no call takes. */
@@ -137,25 +140,32 @@ public final class RandomRunsTest {
         }
     }
 
+    /** In a quiet run the log gets full; in a restless one power is cut and bytes are spoilt over and over. */
+    private void turn(String at) {
+        int kind = random.nextInt(40);
+        if (kind < 18) {
+            monitorCall(at);
+        } else if (kind < 24) {
+            lookCall(at);
+        } else if (kind < (isRestless || model.shut ? 29 : 39)) {
+            proofCall(at);
+        } else {
+            diskCall(at);
+        }
+    }
+
+    /** Each answer that is compared is one call; a turn makes six at most. */
     private void run(long seed) {
-        for (int call = 0; call < 400; call++) {
-            String at = "seed " + seed + ", turn " + call + ": ";
-            int kind = random.nextInt(40);
-            if (kind < 18) {
-                monitorCall(at);
-            } else if (kind < 24) {
-                lookCall(at);
-            } else if (kind < 37) {
-                proofCall(at);
-            } else if (kind < 38 || model.shut) {
-                diskCall(at);
-            }
+        int before = Check.askedOnes();
+        for (int turn = 0; Check.askedOnes() - before <= MOST_CALLS - 7; turn++) {
+            String at = "seed " + seed + ", turn " + turn + ": ";
+            turn(at);
             Check.due(at + "digest", vault.digest(), model.digest());
         }
     }
 
     public static void main(String[] args) {
-        for (long seed = 0; seed < 150 && Check.wrongOnes() == 0; seed++) {
+        for (long seed = 0; seed < 300 && Check.wrongOnes() == 0; seed++) {
             new RandomRunsTest(seed).run(seed);
         }
         Check.end();
