@@ -2,7 +2,7 @@ import java.util.Random;
 
 /** Seeded runs of up to 512 calls on a new object, each answer compared with the model's. */
 public final class RandomRunsTest {
-    private static final int MOST_CALLS = 512;
+    private static final int MOST_CALLS = 512, MOST_OF_A_TURN = 7;
     private static final int[] ODD = {-1, Integer.MIN_VALUE, Integer.MAX_VALUE, 12, 15, 16, 19, 20, 32, 60, 61, 1019,
         1020, 1021, 255, 256, 65536, -2147483000};
 
@@ -154,10 +154,10 @@ public final class RandomRunsTest {
         }
     }
 
-    /** Each answer that is compared is one call; a turn makes six at most. */
+    /** Each answer that is compared is one call; a turn makes seven at most. */
     private void run(long seed) {
         int before = Check.askedOnes();
-        for (int turn = 0; Check.askedOnes() - before <= MOST_CALLS - 7; turn++) {
+        for (int turn = 0; Check.askedOnes() - before <= MOST_CALLS - MOST_OF_A_TURN; turn++) {
             String at = "seed " + seed + ", turn " + turn + ": ";
             turn(at);
             Check.due(at + "digest", vault.digest(), model.digest());
